@@ -911,7 +911,7 @@ public final class ShadowTax {
                     }
                 } else if (step == NOT || step == NEGATE) {
                     if (top >= 1) {
-                        stack[top - 1] = step == NEGATE ? -stack[top - 1] : truth(stack[top - 1] == 0);
+                        stack[top - 1] = alone(step, stack[top - 1]);
                     }
                 } else if (top >= 2) {
                     top--;
@@ -921,16 +921,23 @@ public final class ShadowTax {
             return top > 0 ? stack[0] : 0;
         }
 
+        private static int alone(int step, int a) {
+            if (step == NEGATE) {
+                return -a;
+            }
+            return a == 0 ? 1 : 0;
+        }
+
         private static int joined(int step, int a, int b) {
             switch (step) {
                 case OR:
-                    return truth(a != 0 || b != 0);
+                    return a != 0 || b != 0 ? 1 : 0;
                 case AND:
-                    return truth(a != 0 && b != 0);
+                    return a != 0 && b != 0 ? 1 : 0;
                 case LESS:
-                    return truth(a < b);
+                    return a < b ? 1 : 0;
                 case SAME:
-                    return truth(a == b);
+                    return a == b ? 1 : 0;
                 case PLUS:
                     return a + b;
                 case MINUS:
@@ -938,10 +945,6 @@ public final class ShadowTax {
                 default:
                     return a * b;
             }
-        }
-
-        private static int truth(boolean so) {
-            return so ? 1 : 0;
         }
     }
 
@@ -1090,30 +1093,24 @@ public final class ShadowTax {
             while (next < size && isLetter(tape[next])) {
                 next++;
             }
-            int name = nameOf();
-            return name == NONE ? keyOf() : -1 - name;
-        }
-
-        private int nameOf() {
             if (isWord("hour")) {
-                return OF_HOUR;
+                return -1 - OF_HOUR;
             }
             if (isWord("height")) {
-                return OF_HEIGHT;
+                return -1 - OF_HEIGHT;
             }
             if (isWord("number")) {
-                return OF_NUMBER;
+                return -1 - OF_NUMBER;
             }
             if (isWord("long")) {
-                return OF_LONG;
+                return -1 - OF_LONG;
             }
             if (isWord("day")) {
-                return OF_DAY;
+                return -1 - OF_DAY;
             }
-            return isWord("cell") ? OF_CELL : NONE;
-        }
-
-        private int keyOf() {
+            if (isWord("cell")) {
+                return -1 - OF_CELL;
+            }
             if (isWord("slants")) {
                 return FIRST_KEY - SLANTS;
             }

@@ -64,6 +64,8 @@ public final class PromiseTest {
         send();
         tells();
         tellsMore();
+        tellsByHour();
+        crowd();
         film();
         drawn();
         chance();
@@ -111,6 +113,7 @@ public final class PromiseTest {
         due("clouds", x.set(1, 0, 8192), -2);
         due("clouds", x.set(1, 0, -1), -2);
         due("clouds stay", x.told(0, 1), 64);
+        due("no clouds", x.set(1, 0, 0), 64);
         due("nobody's number", x.set(2, 0, 1), -2);
         x.thing(1, 3, 7);
         due("number", x.set(2, 0, 9), 3);
@@ -198,7 +201,12 @@ public final class PromiseTest {
         due("tape is empty", x.count(3), 0);
         due("fault", write(x, "slants 1;dues 1;sets 1"), -122);
         due("tape is empty by a fault, too", x.count(3), 0);
+        due("a fault behind two parts", write(x, "slants 1+1;dues 2;"), -118);
         due("blanks", write(x, "\n slants\n1 ; dues 1 ; sets 1 ; \n"), 2);
+        x.force(2);
+        x.thing(0, 0, 15);
+        due("nothing is left of a fault", x.hour(0, 0, 0) * 100 + x.hour(0, 0, 2), 100);
+        x.force(0);
         due("no blanks", write(x, "slants1;dues2and3;sets4or5;"), 3);
         due("signs", write(x, "slants(hour+height*number);dues-long-day;sets not cell<1;"), 4);
         due("whole tape", write(x, "slants 1;dues 1;sets 1;" + " ".repeat(137)), 5);
@@ -221,6 +229,10 @@ public final class PromiseTest {
         due("behind the end", fault("slants 1;dues 1;sets 1; ;"), 24);
         due("behind the end", fault("slants 1;dues 1;sets 1;x"), 23);
         due("unknown word", fault("slants hours;"), 7);
+        due("unknown word", fault("slants hourz;"), 7);
+        due("unknown word", fault("slants jour;"), 7);
+        due("unknown word", fault("slants daz;"), 7);
+        due("unknown word", fault("plants 1;"), 0);
         due("long word", fault("slantsx 1;"), 0);
         due("key for a name", fault("slants dues;"), 7);
         due("big letter", fault("slants Hour;"), 7);
@@ -289,6 +301,7 @@ public final class PromiseTest {
         due("or", value("0 or 7"), 1);
         due("or", value("0 or 0"), 0);
         due("and", value("5 and 7"), 1);
+        due("and", value("1 and 1"), 1);
         due("and", value("5 and 0"), 0);
         due("and ahead of or", value("1 or 1 and 0"), 1);
         due("and ahead of or", value("0 and 0 or 1"), 1);
@@ -349,6 +362,7 @@ public final class PromiseTest {
         due("church, bound", longOf(4, 9, 13, 4), 29);
         due("thief", longOf(5, 9, 20, 40), 0);
         due("slants above the bound", longOf(0, 0, 1, 9999), 10);
+        due("slants above the bound", longOf(3, 1, 4, 41), 19);
         ShadowTax x = ruled("slants 4+long;dues 1;sets 0;");
         x.thing(0, 0, 29);
         due("long is 0 in slants", x.hour(0, 11, 0), 5);
@@ -582,6 +596,8 @@ public final class PromiseTest {
         due("hidden all the same", x.shade(0, 0, 1), 0);
         x.set(4, 2, 14);
         due("two that hide it", x.shade(0, 0, 0), -1);
+        due("the first one of all", x.shade(1, 12, 0), 0);
+        due("due without", x.shade(1, 12, 1), 10);
         due("thing", x.shade(3, 0, 0), -2);
         due("thing", x.shade(-1, 0, 0), -2);
         due("hour", x.shade(0, 13, 0), -2);
@@ -698,6 +714,9 @@ public final class PromiseTest {
         told13(x, 2, 0, 200, 200);
         x.set(2, 1, 0);
         due("bytes have a sign", x.tells(2, 1, 0), 0);
+        x.set(1, 0, 0b11);
+        due("other clouds instead of these", x.tells(1, 0, 5), 1 + 7 + 21);
+        due("clouds stay", x.set(1, 0, 0), 0b11);
         x.thing(4, 0, 0);
         x.set(3, 2, 1);
         told13(x, 3, 2, 24, 24);
@@ -709,6 +728,51 @@ public final class PromiseTest {
         told13(x, 0, 2, 10, 0);
         due("cells in the church's evening shadow", x.tells(0, 1, 4), (1 << 20) - (1 << 6));
         due("not where it stands", x.tells(0, 1, 0), 7);
+    }
+
+    /** What differs in the first or the last hour alone. */
+    private static void tellsByHour() {
+        promise = 16;
+        for (int odd = 0; odd < 13; odd += 12) {
+            ShadowTax x = ruled("slants 4;dues 2+(hour=" + odd + ")*number;sets (hour=" + odd + ")*cell;");
+            x.thing(0, 1, 1);
+            x.film(0, 0);
+            due("none otherwise", x.tells(0, 0, 0), -1);
+            due("numbers", x.tells(0, 0, 2), 1 << 1);
+            due("cells", x.tells(0, 0, 4), 1 << 1);
+            due("texts", x.tells(0, 0, 6), 0b10);
+            x.cell(0, odd, 15);
+            due("otherwise", x.tells(0, 0, 0), odd);
+            x.cell(0, odd, 0);
+            due("a cloud there, and perhaps at noon", x.tells(0, 0, 5), 2);
+        }
+    }
+
+    private static void crowd() {
+        ShadowTax x = new ShadowTax();
+        for (int i = 0; i < 8; i++) {
+            x.thing(0, 0, 3 * i);
+        }
+        promise = 8;
+        due("the last of eight", x.hour(7, 0, 2), 10);
+        promise = 9;
+        due("every second one", x.takes(0), 40);
+        promise = 11;
+        due("apart", x.hours(3), 10);
+        promise = 12;
+        due("best: the shadow of that on 6 begins on 1", x.best(7, 0, 0), 1);
+        promise = 13;
+        due("place", x.place(7, 0, 1), 40);
+        promise = 14;
+        due("shade", x.shade(6, 0, 0), 7);
+        promise = 15;
+        due("send: without any of them four others owe", x.send(0, 0), -1);
+        promise = 16;
+        x.film(0, 7);
+        due("tells", x.tells(0, 7, 0), -1);
+        promise = 21;
+        due("image", x.image(), 8);
+        due("back", x.back(), 8);
     }
 
     private static void film() {
@@ -762,6 +826,9 @@ public final class PromiseTest {
     private static void chance() {
         promise = 19;
         ShadowTax x = alone();
+        due("ahead of any other look", x.chance(3, 20, 10, 0), 1);
+        x.set(1, 0, 8191);
+        due("whatever the clouds are", x.chance(3, 20, 10, 0), 1);
         for (int n = 1; n <= 20; n++) {
             for (int k = 0; k <= 120; k += 10) {
                 int hits = 0;
