@@ -202,10 +202,10 @@ public final class PromiseTest {
         due("fault", write(x, "slants 1;dues 1;sets 1"), -122);
         due("tape is empty by a fault, too", x.count(3), 0);
         due("a fault behind two parts", write(x, "slants 1+1;dues 2;"), -118);
-        due("blanks", write(x, "\n slants\n1 ; dues 1 ; sets 1 ; \n"), 2);
+        due("blanks", write(x, "\n slants\n8 ; dues 3 ; sets 2 ; \n"), 2);
         x.force(2);
         x.thing(0, 0, 15);
-        due("nothing is left of a fault", x.hour(0, 0, 0) * 100 + x.hour(0, 0, 2), 100);
+        due("nothing is left of a fault", x.hour(0, 0, 0) * 100 + x.hour(0, 0, 2), 1028);
         x.force(0);
         due("no blanks", write(x, "slants1;dues2and3;sets4or5;"), 3);
         due("signs", write(x, "slants(hour+height*number);dues-long-day;sets not cell<1;"), 4);
@@ -714,9 +714,9 @@ public final class PromiseTest {
         told13(x, 2, 0, 200, 200);
         x.set(2, 1, 0);
         due("bytes have a sign", x.tells(2, 1, 0), 0);
-        x.set(1, 0, 0b11);
+        x.set(1, 0, 0b1100000000011);
         due("other clouds instead of these", x.tells(1, 0, 5), 1 + 7 + 21);
-        due("clouds stay", x.set(1, 0, 0), 0b11);
+        due("clouds stay", x.set(1, 0, 0), 0b1100000000011);
         x.thing(4, 0, 0);
         x.set(3, 2, 1);
         told13(x, 3, 2, 24, 24);
