@@ -928,7 +928,7 @@ public final class OracleTest {
 
         private void hold(long got, long want) {
             calls++;
-            if (got != want && !over) {
+            if (got != want && !over && calls <= CALLS) {
                 over = true;
                 wrong++;
                 System.out.println("run " + number + ", call " + calls + ": " + last + " answered " + got + ", due is " + want);

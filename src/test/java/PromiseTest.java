@@ -830,6 +830,8 @@ public final class PromiseTest {
         x.set(1, 0, 8191);
         due("whatever the clouds are", x.chance(3, 20, 10, 0), 1);
         for (int n = 1; n <= 20; n++) {
+            // An object is good for 512 calls.
+            x = alone();
             for (int k = 0; k <= 120; k += 10) {
                 int hits = 0;
                 for (int i = 0; i < n; i++) {
@@ -844,6 +846,7 @@ public final class PromiseTest {
                 due("below 1 .. n", below >= 1 && below <= n ? 1 : 0, 1);
             }
         }
+        x = alone();
         due("all", x.chance(3, 20, 0, 0), 1);
         due("all", x.chance(3, 20, 0, 1), 1);
         due("none", x.chance(3, 20, 99999, 0), 0);
